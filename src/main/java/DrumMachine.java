@@ -534,10 +534,11 @@ public final class DrumMachine {
 
         /** The time that an operation takes, without what hangs on the numbers it works with. */
         static int fixedTime(int operation, int data) {
-            if (adds(operation)) {
+            int kind = kindOf(operation);
+            if (kind == KIND_ADD) {
                 return ADD_TIME;
             }
-            if (shifts(operation)) {
+            if (kind == KIND_SHIFT) {
                 int rounding = operation == SHIFT_AND_ROUND ? 1 : 0;
                 return shiftLength(operation, data) + rounding;
             }
@@ -587,8 +588,10 @@ public final class DrumMachine {
             return overflow;
         }
 
-        void setOverflow(boolean on) {
-            overflow = on;
+        boolean takeOverflow() {
+            boolean was = overflow;
+            overflow = false;
+            return was;
         }
 
         void reset() {
@@ -628,13 +631,11 @@ public final class DrumMachine {
             minus = minus != wordMinus;
         }
 
-        boolean canDivideBy(long word) {
-            return word > 0 && upper < word;
-        }
-
-        void divide(long word, boolean wordMinus) {
-            if (!canDivideBy(word)) {
-                return;
+        /** False, with overflow on and no digit changed, if the quotient would not fit the lower. */
+        boolean divide(long word, boolean wordMinus) {
+            if (word <= 0 || upper >= word) {
+                overflow = true;
+                return false;
             }
             long rest = upper;
             long below = lower;
@@ -648,6 +649,7 @@ public final class DrumMachine {
             upper = rest;
             lower = quotient;
             minus = minus != wordMinus;
+            return true;
         }
 
         void shiftRight(int digits) {
@@ -832,16 +834,10 @@ public final class DrumMachine {
                 case Operations.BRANCH_MINUS:
                     return accumulator.isMinus();
                 case Operations.BRANCH_OVERFLOW:
-                    return takeOverflow();
+                    return accumulator.takeOverflow();
                 default:
                     return false;
             }
-        }
-
-        private boolean takeOverflow() {
-            boolean was = accumulator.hasOverflow();
-            accumulator.setOverflow(false);
-            return was;
         }
 
         private int read(int operation, int address) {
@@ -888,11 +884,9 @@ public final class DrumMachine {
         }
 
         private int divide(long value, boolean minus) {
-            if (!accumulator.canDivideBy(value)) {
-                accumulator.setOverflow(true);
+            if (!accumulator.divide(value, minus)) {
                 return FAULT_DIVIDE;
             }
-            accumulator.divide(value, minus);
             time += TIME_OF_A_UNIT * Digits.sum(accumulator.lowerDigits());
             return RUNNING;
         }

@@ -8,7 +8,9 @@ final class AssemblerTest {
         operationsOfLines();
         wrongReservesAndPlaces();
         openParts();
+        openEnds();
         leastFree();
+        addressesOfEveryPartAreNotFree();
         numbersOfShiftsAreNoAddresses();
         bestForLocationAndData();
         bestForNext();
@@ -16,6 +18,7 @@ final class AssemblerTest {
         reservedAddresses();
         failsByTwoLines();
         failsByNoFreeAddress();
+        failsByOnePart();
         assembledAgain();
         clears();
         writesPlusAndValid();
@@ -97,6 +100,40 @@ final class AssemblerTest {
         Due.same("that line", x.get(0), 6900080009L);
         Due.same("a new place as the line before has a next", x.get(1), 3100000000L);
         Due.same("the last line's next is 0, without a place", x.get(2), 0);
+    }
+
+    /** The first line's location and the last line's next, both -1; lines from before clear() don't count. */
+    private static void openEnds() {
+        DrumMachine x = new DrumMachine();
+        for (int i = 0; i < 40; i++) {
+            x.line(-1, 69, 0, -1);
+        }
+        Due.same("forty open lines", x.assemble(false), 1);
+        Due.same("the first of them", x.get(1), 6900000002L);
+        Due.same("the last of them has next 0", x.get(40), 6900000000L);
+        Due.same("forty open lines with optimum", x.assemble(true), 50);
+        x.clear();
+        x.line(-1, 69, 5, -1);
+        Due.same("one open line", x.assemble(false), 0);
+        Due.same("it has next 0", x.get(0), 6900050000L);
+        x.clear();
+        x.line(-1, 69, -1, -1);
+        Due.same("-1 as data leaves address 0 free", x.assemble(true), 0);
+    }
+
+    private static void addressesOfEveryPartAreNotFree() {
+        DrumMachine x = new DrumMachine();
+        x.line(0, 0, 1, 2);
+        x.line(S, 0, S + 1, S + 2);
+        x.line(4, 0, 5, 6);
+        Due.same("assemble", x.assemble(false), 0);
+        Due.same("behind the first line's parts", x.place(0), 3);
+        Due.same("behind a later line's parts", x.place(1), 7);
+        Due.same("then", x.place(2), 8);
+        Due.same("with optimum", x.assemble(true), 0);
+        Due.same("location", x.place(0), 50);
+        Due.same("data", x.place(1), 51);
+        Due.same("next", x.place(2), 101);
     }
 
     private static void leastFree() {
@@ -277,6 +314,27 @@ final class AssemblerTest {
         x.line(3, 30, -1, -1);
         x.line(4, 69, -1, -1);
         Due.same("what needs no place gets none", x.assemble(true), 3);
+    }
+
+    private static void failsByOnePart() {
+        int[][] lines = {{S, 69, 4, 5}, {-1, 69, 4, 5}, {6, 69, S, 5}, {6, 69, 4, S}};
+        for (int[] line : lines) {
+            for (int optimum = 0; optimum < 2; optimum++) {
+                boolean best = optimum == 1;
+                DrumMachine y = new DrumMachine();
+                for (int address = 0; address < 200; address++) {
+                    y.reserve(address);
+                }
+                y.line(3, 69, 4, 5);
+                Due.same("without the line", y.assemble(best), 3);
+                y.word(3, 9, false);
+                y.line(line[0], line[1], line[2], line[3]);
+                Due.refused("one part without a place", UnsupportedOperationException.class,
+                        () -> y.assemble(best));
+                Due.same("nothing is written", y.get(3), 9);
+                Due.same("place(0)", y.place(0), -1);
+            }
+        }
     }
 
     private static void assembledAgain() {

@@ -297,6 +297,11 @@ final class StepsTest {
         x.word(61, 5, true);
         Due.same("DIVIDE with quotient 0: time", oneStep(x, 1400610000L), 22);
         holds("3 / -5", x, 3, 0, true);
+        x = holding(0, MOST, true, 0, false);
+        x.word(61, 1, true);
+        oneStep(x, 1400610000L);
+        holds("DIVIDE by 1", x, 0, MOST, false);
+        Due.same("DIVIDE by 1: fault", x.fault(), -1);
     }
 
     private static void divisionsThatStop() {
