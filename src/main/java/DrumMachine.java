@@ -71,7 +71,7 @@ public final class DrumMachine {
         if (!Drum.hasAddress(address)) {
             throw new IndexOutOfBoundsException("no such address");
         }
-        assembler.keepFrom(address);
+        assembler.markReserved(address);
     }
 
     public void clear() {
@@ -1020,13 +1020,15 @@ public final class DrumMachine {
             return number;
         }
 
-        void keepFrom(int address) {
+        void markReserved(int address) {
             reserved[address] = true;
         }
 
         void forgetAll() {
             count = 0;
-            Arrays.fill(reserved, false);
+            for (int address = 0; address < Drum.ADDRESSES; address++) {
+                reserved[address] = false;
+            }
             forgetPlaces();
         }
 
@@ -1063,7 +1065,9 @@ public final class DrumMachine {
         }
 
         private void markTaken() {
-            System.arraycopy(reserved, 0, taken, 0, Drum.ADDRESSES);
+            for (int address = 0; address < Drum.ADDRESSES; address++) {
+                taken[address] = reserved[address];
+            }
             for (int line = 0; line < count; line++) {
                 takeIfAddress(locationParts[line]);
                 takeIfAddress(nextParts[line]);
