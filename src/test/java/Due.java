@@ -2,37 +2,53 @@
 final class Due {
     private static int wrong = 0;
     private static int looked = 0;
+    private static String prefix = "";
 
     private Due() {
+    }
+
+    /** What follows belongs to this case: a wrong answer is printed with its name. */
+    static void begin(String caseName) {
+        prefix = caseName + ": ";
     }
 
     static void same(String what, long got, long want) {
         looked++;
         if (got != want) {
-            wrong++;
-            System.out.println(what + " answered " + got + ", due is " + want);
+            tell(what, String.valueOf(got), String.valueOf(want));
         }
     }
 
     static void same(String what, boolean got, boolean want) {
         looked++;
         if (got != want) {
-            wrong++;
-            System.out.println(what + " answered " + got + ", due is " + want);
+            tell(what, String.valueOf(got), String.valueOf(want));
         }
     }
 
     static void same(String what, String got, String want) {
         looked++;
         if (!got.equals(want)) {
-            wrong++;
-            System.out.println(what + " answered " + got + ", due is " + want);
+            tell(what, got, want);
         }
+    }
+
+    private static void tell(String what, String got, String want) {
+        wrong++;
+        System.out.println(prefix + what + " answered " + got + ", due is " + want);
     }
 
     /** The call must throw just this class, not one below it. */
     static void refused(String what, Class<? extends RuntimeException> want, Runnable call) {
         same(what, thrownBy(call), want.getSimpleName());
+    }
+
+    /** The call must throw just this class, and nothing that the object can be asked may have changed. */
+    static void refusedWithoutTrace(String what, DrumMachine x, Class<? extends RuntimeException> want,
+            Runnable call) {
+        String before = Bench.stateOf(x);
+        refused(what, want, call);
+        same(what + ", the state behind it", Bench.stateOf(x), before);
     }
 
     static void taken(String what, Runnable call) {
@@ -50,6 +66,10 @@ final class Due {
 
     static int wrongSoFar() {
         return wrong;
+    }
+
+    static int lookedSoFar() {
+        return looked;
     }
 
     static void end() {
