@@ -1,4 +1,5 @@
 import java.lang.reflect.Constructor;
+import java.lang.reflect.Field;
 import java.lang.reflect.Method;
 import java.lang.reflect.Modifier;
 import java.util.ArrayList;
@@ -49,7 +50,9 @@ final class FaceTest {
             Due.same("the constructor is public", Modifier.isPublic(constructor.getModifiers()), true);
             Due.same("its parameters", constructor.getParameterCount(), 0);
         }
-        Due.same("public fields", DrumMachine.class.getFields().length, 0);
+        for (Field field : DrumMachine.class.getDeclaredFields()) {
+            Due.same("the field " + field.getName() + " is private", Modifier.isPrivate(field.getModifiers()), true);
+        }
         Due.same("the class is public", Modifier.isPublic(DrumMachine.class.getModifiers()), true);
         Due.same("the class is final", Modifier.isFinal(DrumMachine.class.getModifiers()), true);
         Due.end();
